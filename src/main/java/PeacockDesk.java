@@ -33,8 +33,14 @@ public final class PeacockDesk {
     private static final int FAULT_DEEP = 5;
     private static final int FAULT_TAKEN = 6;
 
+    // A text is read into the spare one, so that a fault leaves the one before as it is.
+    private Docket cases = new Docket();
+    private Docket spareCases = new Docket();
+    private Law rules = new Law();
+    private Law spareRules = new Law();
+
     private final Tape tape = new Tape();
-    private final LawReader reader = new LawReader(tape);
+    private final LawReader reader = new LawReader(tape, spareRules);
     private final Cabinet cabinet = new Cabinet();
     private final Sharing sharing = new Sharing();
     private final Parties parties = new Parties();
@@ -44,12 +50,6 @@ public final class PeacockDesk {
     private final Terrace trial = new Terrace();
     private final Terrace kept = new Terrace();
     private boolean anyKept = false;
-
-    // A text is read into the spare one, so that a fault leaves the one before as it is.
-    private Docket cases = new Docket();
-    private Docket spareCases = new Docket();
-    private Law rules = new Law();
-    private Law spareRules = new Law();
 
     public PeacockDesk() {
         now.x = 1;
@@ -975,10 +975,11 @@ public final class PeacockDesk {
         private static final int OPEN = 6;
 
         private final Tape text;
-        private Law law = null;
+        private Law law;
 
-        LawReader(Tape tape) {
+        LawReader(Tape tape, Law target) {
             text = tape;
+            law = target;
         }
 
         boolean readInto(Law target) {

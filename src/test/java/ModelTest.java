@@ -151,7 +151,7 @@ public final class ModelTest {
                 desk.seats(n, many, highest, what), model.seats(n, many, highest, what));
         } else if (kind == 1) {
             int n = up(3) == 0 ? near(2, 8) : 2 + up(4);
-            int quota = up(1) == 0 ? near(1, 2040) : 1 + up(most * n / 2);
+            int quota = up(1) == 0 ? near(1, 2040) : 1 + up(most * 4);
             int what = up(2) == 0 ? 100 : near(0, Math.max(0, Math.min(7, n - 1)));
             feed(row(8, most));
             due("power(" + n + ", " + quota + ", " + what + ")", desk.power(n, quota, what), model.power(n, quota, what));
