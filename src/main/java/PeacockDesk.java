@@ -40,7 +40,6 @@ public final class PeacockDesk {
     private Law spareRules = new Law();
 
     private final Tape tape = new Tape();
-    private final LawReader reader = new LawReader(tape, spareRules);
     private final Cabinet cabinet = new Cabinet();
     private final Sharing sharing = new Sharing();
     private final Parties parties = new Parties();
@@ -79,7 +78,7 @@ public final class PeacockDesk {
         if (!tape.take(n, 1, 240)) {
             return NONE;
         }
-        if (!reader.readInto(spareRules)) {
+        if (!LawReader.readInto(spareRules, tape)) {
             return tape.fault;
         }
         Law before = rules;
@@ -503,6 +502,17 @@ public final class PeacockDesk {
             return true;
         }
 
+        /** Which of these signs is the next one; -1: none. */
+        int placeIn(String signs) {
+            int next = peek();
+            for (int i = 0; i < signs.length(); i++) {
+                if (signs.charAt(i) == next) {
+                    return i;
+                }
+            }
+            return -1;
+        }
+
         boolean isDigit() {
             int sign = peek();
             return sign >= '0' && sign <= '9';
@@ -794,7 +804,7 @@ public final class PeacockDesk {
 
         private int fewestOf(int left) {
             int out = 0;
-            int fewest = Integer.MAX_VALUE;
+            int fewest = allBallots();
             for (int m = 0; m < ministers; m++) {
                 if ((left >> m & 1) == 1 && firstsOf(m, left) <= fewest) {
                     out = m;
@@ -967,26 +977,17 @@ public final class PeacockDesk {
         }
     }
 
-    /** Reads a law from the tape into its steps. */
+    /** Reads a law from a text into its steps; how many signs are open is carried along. */
     private static final class LawReader {
         // The order of the kinds and of the facts of a Law.
         private static final String KINDS = "ekhx";
         private static final String LETTERS = "pcsvudqrtw";
         private static final int OPEN = 6;
 
-        private final Tape text;
-        private Law law;
-
-        LawReader(Tape tape, Law target) {
-            text = tape;
-            law = target;
-        }
-
-        boolean readInto(Law target) {
-            law = target;
+        static boolean readInto(Law law, Tape text) {
             law.clear();
             for (int rule = 0; rule <= Law.RULES; rule++) {
-                int kind = placeIn(KINDS);
+                int kind = text.placeIn(KINDS);
                 if (kind < 0) {
                     return text.fail(FAULT_SIGN);
                 }
@@ -995,12 +996,12 @@ public final class PeacockDesk {
                 }
                 text.step();
                 int value = law.length;
-                if (kind != Law.MOULTS && !readSum(0)) {
+                if (kind != Law.MOULTS && !readSum(law, text, 0)) {
                     return false;
                 }
                 law.addStep(Law.STOP, 0);
                 int test = law.length;
-                if (!text.pass('(') || !readChoice(1) || !text.pass(')')) {
+                if (!text.pass('(') || !readChoice(law, text, 1) || !text.pass(')')) {
                     return false;
                 }
                 law.addStep(Law.STOP, 0);
@@ -1016,11 +1017,11 @@ public final class PeacockDesk {
         }
 
         /** C: a skip lands behind the test, or the part, that it leaves out, and may be followed by the next skip. */
-        private boolean readChoice(int open) {
+        private static boolean readChoice(Law law, Tape text, int open) {
             int andSkip = -1;
             int orSkip = -1;
             for (int i = 0; i < Law.STEPS; i++) {
-                if (!readTest(open)) {
+                if (!readTest(law, text, open)) {
                     return false;
                 }
                 law.landHere(andSkip);
@@ -1039,7 +1040,7 @@ public final class PeacockDesk {
             return false;
         }
 
-        private boolean readTest(int open) {
+        private static boolean readTest(Law law, Tape text, int open) {
             int next = text.peek();
             if (next == '(' || next == '!') {
                 if (open >= OPEN) {
@@ -1047,42 +1048,42 @@ public final class PeacockDesk {
                 }
                 text.step();
                 if (next == '(') {
-                    return readChoice(open + 1) && text.pass(')');
+                    return readChoice(law, text, open + 1) && text.pass(')');
                 }
-                boolean good = readTest(open + 1);
+                boolean good = readTest(law, text, open + 1);
                 law.addStep(Law.NOT, 0);
                 return good;
             }
-            if (!readSum(open)) {
+            if (!readSum(law, text, open)) {
                 return false;
             }
-            int sign = placeIn("<>=");
+            int sign = text.placeIn("<>=");
             if (sign < 0) {
                 return text.fail(FAULT_SIGN);
             }
             text.step();
-            boolean good = readSum(open);
+            boolean good = readSum(law, text, open);
             law.addStep(Law.BELOW + sign, 0);
             return good;
         }
 
         /** E: a sign waits till the factor, or the term, behind it has been read. */
-        private boolean readSum(int open) {
+        private static boolean readSum(Law law, Tape text, int open) {
             int times = -1;
             int plus = -1;
             for (int i = 0; i < Law.STEPS; i++) {
-                if (!readFactor(open)) {
+                if (!readFactor(law, text, open)) {
                     return false;
                 }
                 if (times >= 0) {
                     law.addStep(Law.TIMES + times, 0);
                 }
-                times = placeIn("*/%");
+                times = text.placeIn("*/%");
                 if (times < 0) {
                     if (plus >= 0) {
                         law.addStep(Law.ADD + plus, 0);
                     }
-                    plus = placeIn("+-");
+                    plus = text.placeIn("+-");
                     if (plus < 0) {
                         return true;
                     }
@@ -1092,15 +1093,15 @@ public final class PeacockDesk {
             return false;
         }
 
-        private boolean readFactor(int open) {
+        private static boolean readFactor(Law law, Tape text, int open) {
             if (text.peek() == '[') {
                 if (open >= OPEN) {
                     return text.fail(FAULT_DEEP);
                 }
                 text.step();
-                return readSum(open + 1) && text.pass(']');
+                return readSum(law, text, open + 1) && text.pass(']');
             }
-            int letter = placeIn(LETTERS);
+            int letter = text.placeIn(LETTERS);
             if (letter >= 0) {
                 text.step();
                 law.addStep(Law.LETTER, letter);
@@ -1109,17 +1110,6 @@ public final class PeacockDesk {
             int number = text.readNumber(5);
             law.addStep(Law.NUMBER, number);
             return number >= 0;
-        }
-
-        /** Which of these signs is the next one; -1: none. */
-        private int placeIn(String signs) {
-            int next = text.peek();
-            for (int i = 0; i < signs.length(); i++) {
-                if (signs.charAt(i) == next) {
-                    return i;
-                }
-            }
-            return -1;
         }
     }
 
