@@ -12,6 +12,7 @@ public final class EdgesOfDaysTest {
         moulting();
         facts();
         sums32();
+        longLaws();
         dividedByZero();
         eyes();
         hen();
@@ -231,6 +232,30 @@ public final class EdgesOfDaysTest {
         }
         due("32 bits: E is the least", taker("e" + least + "(1=1)"), -2);
         due("32 bits: E is the most", taker("e" + most + "(p=3);e9999(p=4)"), 3);
+    }
+
+    /** As many signs in a row as 240 bytes hold. */
+    private static void longLaws() {
+        due("long: 110 ones", taker("e9(p=1);e" + "1+".repeat(100) + "1-91(p=2);e10(p=4)"), 2);
+        due("long: 110 ones, one less", taker("e9(p=1);e" + "1+".repeat(100) + "1-92(p=2);e10(p=4)"), 4);
+        due("long: minus", taker("e105" + "-1".repeat(100) + "(p=2);e4(p=7)"), 2);
+        due("long: times", taker("e1" + "*1".repeat(100) + "(p=2)"), 2);
+        due("long: through", taker("e7" + "/1".repeat(100) + "(p=2)"), 2);
+        due("long: signs in turn", taker("e5" + "+6/3".repeat(50) + "-100(p=2);e4(p=7)"), 2);
+        due("long: 50 tests", taker("e1(p=2" + "&1=1".repeat(50) + ")"), 2);
+        due("long: 50 tests, the last fails", taker("e1(p=2" + "&1=1".repeat(49) + "&1=2)"), -2);
+        due("long: 50 tests, the first fails", taker("e1(1=2" + "&p=2".repeat(50) + ")"), -2);
+        due("long: 50 parts", taker("e1(1=2" + "|1=2".repeat(49) + "|p=6)"), 6);
+        due("long: 50 parts, none holds", taker("e1(1=2" + "|1=2".repeat(50) + ")"), -2);
+        due("long: 50 parts, the first holds", taker("e1(p=6" + "|1=2".repeat(50) + ")"), 6);
+        due("long: & and |", taker("e1(1=2&p=p" + "|1=2&p=p".repeat(24) + "|p=3&p=p)"), 3);
+        due("long: ! in a row", taker("e1(p=3" + "&!1=2".repeat(40) + ")"), 3);
+        due("long: ( in a row", taker("e1(p=3" + "&(1=1)".repeat(30) + ")"), 3);
+        due("long: [ in a row", taker("e[1]" + "+[1]".repeat(50) + "-[50](p=3)"), 3);
+        String deep = "9-[8-[7-[6-[5-[4-[p-2]]]]]]";
+        due("long: brackets at the right", taker("e" + deep + "(p=2);e5(p=4)"), 4);
+        due("long: brackets at the right, one more", taker("e" + deep + "+1(p=2);e5(p=4)"), 4);
+        due("long: brackets at the right, two more", taker("e" + deep + "+2(p=2);e5(p=4)"), 2);
     }
 
     /** "what is divided by 0 is REFUSED: then the whole C of the RULE does not hold, the E of it is 0" */
@@ -591,6 +616,15 @@ public final class EdgesOfDaysTest {
         due("numbers: SPREAD of the hen", desk(each + ";a1>8;a1>8;a1>8", "").numbers(0), 2);
         due("numbers: SPREAD of twelve", desk(times("a1>5", 12), "").numbers(0), 12);
         due("numbers: SPREAD of none taken", desk(times("a1", 24), "").numbers(0), 0);
+        for (int p = 0; p <= 8; p++) {
+            StringBuilder others = new StringBuilder();
+            for (int other = 0; other <= 8; other++) {
+                if (other != p) others.append(";a1>").append(other);
+            }
+            due("numbers: SPREAD, all but " + p, desk(others.substring(1), "").numbers(0), 1);
+            due("numbers: SPREAD, " + p + " alone", desk("a1>" + p, "").numbers(0), 1);
+            due("numbers: SPREAD, " + p + " most, none has none", desk("a1>" + p + ";a1>" + p + others, "").numbers(0), 1);
+        }
         PeacockDesk gone = desk("a1>0;b1>0", "");
         gone.days(1);
         due("numbers: SPREAD without DONE ones", gone.numbers(0), 1);
