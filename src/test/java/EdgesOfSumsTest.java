@@ -95,7 +95,7 @@ public final class EdgesOfSumsTest {
         due("rounds: by one more", vote(3, "2abc;2bca;cba", 104), 1);
         // a and b none: b is out first, then a; d and c two each: d is out.
         due("rounds: without any", vote(4, "2cdab;2dcab", 104), 2);
-        // c is out with one, d with two, b with three, as each vote goes to the next of them.
+        // c is out, and its one goes to d; of b and d with three each d is out, and all three go to b.
         due("rounds: to the end", vote(4, "4abcd;3bdca;2dcba;cdba", 104), 1);
         due("rounds: one ballot", vote(6, "fabcde", 104), 5);
         due("rounds: one of 24", vote(6, "12fabcde;12abcdef", 104), 0);

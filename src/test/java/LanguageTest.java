@@ -22,7 +22,7 @@ public final class LanguageTest {
         "boolean undo()", "int check(int)", "int count(int)"};
     private static final String[] BANNED = {"\\bthrow\\b", "\\btry\\b", "\\bcatch\\b", "\\bsynchronized\\b", "\\bassert\\b", "->", "::",
         "\\bstatic\\s*\\{", "\\bpackage\\b", "\\bThread\\b", "\\bSystem\\.(?!arraycopy)", "\\bRandom\\b", "Exact\\(", "\\bObject\\b",
-        "\\bdouble\\b", "\\bfloat\\b", "\\bthrows\\b", "\\bprotected\\b"};
+        "\\bdouble\\b", "\\bfloat\\b", "\\bthrows\\b", "\\bprotected\\b", "\\b(Integer|Long|Math)\\.[A-Z]"};
 
     public static void main(String[] args) throws IOException {
         String source = Files.readString(Path.of("src/main/java/PeacockDesk.java"), StandardCharsets.ISO_8859_1);

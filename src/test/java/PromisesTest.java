@@ -358,7 +358,7 @@ public final class PromisesTest {
         due("ballots: like points", Bench.ballots(desk, 3, "cba;abc", 102), 0);
         due("ballots: half is not more", Bench.ballots(desk, 2, "2ab;2ba", 103), -2);
         due("ballots: like in rounds", Bench.ballots(desk, 2, "2ab;2ba", 104), 0);
-        // b 4, d 3, a 2, c 0: c is out, then a (to d: 5), then b.
+        // b 4, d 3, c 2, a 0: a is out, then c (to d: 5), then b.
         due("ballots: rounds go on", Bench.ballots(desk, 4, "4bacd;3dabc;2cdab", 104), 3);
         due("ballots: of like ones the highest letter", Bench.ballots(desk, 3, "2abc;bca;cab", 104), 0);
         due("ballots: six", Bench.ballots(desk, 6, "99fedcba;abcdef", 5), 495);
